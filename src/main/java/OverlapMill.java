@@ -1075,16 +1075,43 @@ public final class OverlapMill {
         private final int[] tied = new int[MOST_OPS];
         private final int[] twins = new int[MOST_OPS];
         private final int[] turnsOff = new int[MOST_OPS];
+        private final int[] weights = new int[MOST_OPS];
 
         private boolean findFirst(Body body, int[] ways, int d) {
             if (!take(body, ways, d)) {
                 return false;
             }
+            if (!holdsByUnits()) {
+                return false;
+            }
             tieAll();
+            pairTwins();
             for (int op = 0; op < size; op++) {
                 if ((placed & (1 << op)) == 0) {
                     members = groupOf(op);
                     if (!settleGroup(op)) {
+                        return false;
+                    }
+                }
+            }
+            return true;
+        }
+
+        /** Looks at each UNIT alone, NEEDS aside: what fails there is found soon. */
+        private boolean holdsByUnits() {
+            for (int op = 0; op < size; op++) {
+                tied[op] = 0;
+                weights[op] = 1;
+            }
+            pairTwins();
+            int seen = 0;
+            for (int op = 0; op < size; op++) {
+                if ((seen & (1 << op)) == 0) {
+                    members = sharersOf(units[op]);
+                    seen |= members;
+                    boolean held = place(op, 0) && settle(0);
+                    lift(op);
+                    if (!held) {
                         return false;
                     }
                 }
@@ -1144,6 +1171,9 @@ public final class OverlapMill {
                     }
                 }
             }
+        }
+
+        private void pairTwins() {
             for (int op = 0; op < size; op++) {
                 twins[op] = 0;
                 for (int other = 0; other < size; other++) {
@@ -1262,11 +1292,15 @@ public final class OverlapMill {
 
         private int narrowest() {
             int best = NONE;
-            int fewest = LAST_STEP + 1;
+            int fewest = 0;
             for (int op = 0; op < size; op++) {
                 if ((members & ~placed & (1 << op)) != 0) {
                     int open = Integer.bitCount(openTo(op));
-                    if (open < fewest) {
+                    if (open == 0) {
+                        weights[op]++;
+                        return op;
+                    }
+                    if (best == NONE || open * weights[best] < fewest * weights[op]) {
                         fewest = open;
                         best = op;
                     }
