@@ -1,0 +1,131 @@
+import java.lang.reflect.Field;
+import java.lang.reflect.Method;
+import java.lang.reflect.Modifier;
+import java.nio.file.Files;
+import java.nio.file.Path;
+import java.util.ArrayList;
+import java.util.Arrays;
+import java.util.List;
+import java.util.Set;
+import java.util.TreeSet;
+import java.util.regex.Matcher;
+import java.util.regex.Pattern;
+
+/** What of ../shared/LANGUAGE.md, and of the document's face, can be seen without reading the code. */
+public class RulesTest {
+    static final String[] FORBIDDEN = {"->", "::", "\\btry\\b", "\\bcatch\\b", "\\bfinally\\b",
+        "\\bsynchronized\\b", "\\bassert\\b", "\\binstanceof\\b", "Exact\\b", "\\bSystem\\.(?!arraycopy)",
+        "\" \\+", "\\+ \"", "\\bRandom\\b", "\\bnanoTime\\b", "^package ", "\\bstatic \\{"};
+    static int wrong;
+
+    public static void main(String[] args) throws Exception {
+        Path main = Path.of(args.length > 0 ? args[0] : "src/main/java/OverlapMill.java");
+        String source = Files.readString(main);
+        checkFace(Files.readString(main.toAbsolutePath().resolve("../../../../../shared/DOC.md").normalize()));
+        checkClasses();
+        checkText(source.replaceAll("(?s)/\\*\\*.*?\\*/", "").replaceAll("//.*", ""));
+        System.out.println(wrong + " rules broken");
+        System.exit(wrong == 0 ? 0 : 1);
+    }
+
+    static void hold(boolean fine, String rule) {
+        if (!fine) {
+            wrong++;
+            System.out.println(rule);
+        }
+    }
+
+    /** Each method of the document's face is there with its parameters and exceptions, and no other. */
+    static void checkFace(String document) {
+        String face = document.substring(document.indexOf("```java"), document.indexOf("## Terms"));
+        Set<String> due = new TreeSet<>();
+        Matcher told = Pattern.compile("(?m)^    public (\\w+) (\\w+)\\((.*?)\\)(?: throws (.*?))?;").matcher(face);
+        while (told.find()) {
+            List<String> types = new ArrayList<>();
+            for (String one : told.group(3).isEmpty() ? new String[0] : told.group(3).split(", ")) {
+                types.add(one.split(" ")[0]);
+            }
+            String thrown = told.group(4) == null ? "" : told.group(4);
+            due.add(told.group(1) + " " + told.group(2) + types + thrown);
+        }
+        Set<String> is = new TreeSet<>();
+        for (Method method : OverlapMill.class.getDeclaredMethods()) {
+            if (!Modifier.isPrivate(method.getModifiers())) {
+                is.add(described(method));
+            }
+        }
+        hold(due.size() == 49, "the document's face has " + due.size() + " methods");
+        hold(due.equals(is), "face: due " + due + "\n is " + is);
+        hold(OverlapMill.class.getDeclaredConstructors().length == 1, "one constructor");
+        hold(Modifier.isFinal(OverlapMill.class.getModifiers()), "the class is final");
+        for (Field field : OverlapMill.class.getDeclaredFields()) {
+            boolean open = !Modifier.isPrivate(field.getModifiers());
+            hold(!open || field.getName().equals("NONE"), "open field " + field.getName());
+        }
+    }
+
+    static String described(Method method) {
+        List<String> types = new ArrayList<>();
+        for (Class<?> type : method.getParameterTypes()) {
+            types.add(type.getSimpleName());
+        }
+        List<String> thrown = new ArrayList<>();
+        for (Class<?> type : method.getExceptionTypes()) {
+            thrown.add(type.getSimpleName());
+        }
+        return method.getReturnType().getSimpleName() + " " + method.getName() + types
+                + String.join(", ", thrown);
+    }
+
+    static void checkClasses() {
+        Set<String> open = new TreeSet<>();
+        for (Method method : OverlapMill.class.getDeclaredMethods()) {
+            if (Modifier.isPublic(method.getModifiers())) {
+                open.add(method.getName());
+            }
+        }
+        List<Class<?>> classes = new ArrayList<>(Arrays.asList(OverlapMill.class.getDeclaredClasses()));
+        hold(classes.size() <= 11, "twelve classes at most");
+        for (Class<?> one : classes) {
+            hold(Modifier.isStatic(one.getModifiers()), one + " is static");
+        }
+        classes.add(OverlapMill.class);
+        for (Class<?> one : classes) {
+            int fields = 0;
+            for (Field field : one.getDeclaredFields()) {
+                boolean fixed = Modifier.isStatic(field.getModifiers());
+                fields += fixed ? 0 : 1;
+                hold(!fixed || Modifier.isFinal(field.getModifiers()), "static field " + field);
+            }
+            hold(fields <= 20, one + " has " + fields + " fields");
+            for (Method method : one.getDeclaredMethods()) {
+                boolean own = !Modifier.isPublic(method.getModifiers());
+                hold(!own || !open.contains(method.getName()), "named as a public one: " + method);
+                hold(method.getParameterCount() <= 7, "parameters: " + method);
+            }
+        }
+    }
+
+    static void checkText(String source) {
+        for (String forbidden : FORBIDDEN) {
+            hold(!Pattern.compile(forbidden, Pattern.MULTILINE).matcher(source).find(), "forbidden: " + forbidden);
+        }
+        Matcher imports = Pattern.compile("(?m)^import (.*);").matcher(source);
+        while (imports.find()) {
+            hold(imports.group(1).equals("java.util.NoSuchElementException"), "import " + imports.group(1));
+        }
+        String[] lines = source.split("\n");
+        int begin = 0;
+        for (int i = 0; i < lines.length; i++) {
+            if (lines[i].matches(" {4,8}(private|public) .*\\) .*\\{") || lines[i].matches(" +throws .*\\{")) {
+                begin = i;
+            }
+            if (lines[i].matches(" {4,8}\\}") && begin > 0) {
+                hold(i - begin <= 60 || lines[i].startsWith("    }"), "a long method ends in line " + (i + 1));
+            }
+            for (int c = 0; c < lines[i].length(); c++) {
+                hold(lines[i].charAt(c) < 128, "sign in line " + (i + 1));
+            }
+        }
+    }
+}
