@@ -532,6 +532,27 @@ public class PromiseTests {
         due(8, () -> adds(8).moves(8));
         due(-1, () -> adds(3).moves(2));
         due(4, () -> thrownOut().moves(4));
+        // 30 moves are just enough for 5 OPS; the 19 that 3 OPS would take are one too many.
+        OverlapMill enough = new OverlapMill();
+        enough.unit(1, 3);
+        enough.kind(ADD, 1, 1, 13);
+        enough.kind(SUBTRACT, 1, 1, 9);
+        enough.kind(MULTIPLY, 1, 1, 15);
+        enough.kind(LEAST, 1, 1, 5);
+        for (int kind : new int[] {SUBTRACT, ADD, MULTIPLY, MULTIPLY, LEAST}) {
+            enough.reckon(kind, TURN, 0, TURN, 0);
+        }
+        due(30, () -> enough.moves(5));
+        OverlapMill few = new OverlapMill();
+        few.kind(LEAST, 0, 1, 8);
+        few.kind(SUBTRACT, 0, 1, 5);
+        few.kind(LOAD, 0, 1, 15);
+        few.reckon(LEAST, TURN, 0, TURN, 0);
+        few.reckon(SUBTRACT, TURN, 0, TURN, 0);
+        few.load(1, 7);
+        holds(true, () -> few.fits(7));
+        due(-1, () -> few.moves(7));
+        due(-1, () -> few.quick(0, 7));
         due(0, () -> new OverlapMill().moves(12));
         fails(ARGUMENT, () -> x.moves(13));
         fails(STATE, () -> growth().moves(3));
@@ -798,9 +819,29 @@ public class PromiseTests {
         due(1, () -> new OverlapMill().turning(3));
         due(1, () -> adds(1).turning(1));
         due(3, () -> longLife().turning(1));
+        due(40, () -> longWay(5).turning(1));
+        due(-1, () -> longWay(6).turning(1));
         fails(ARGUMENT, () -> scale().turning(0));
         fails(STATE, () -> scale().turning(1));
         fails(STATE, () -> unsound().turning(1));
+    }
+
+    /** The first OP lives 34 cycles (37 for a LATENCY of 6), six others live one each. */
+    static OverlapMill longWay(int latency) {
+        OverlapMill x = new OverlapMill();
+        x.unit(0, 3);
+        x.unit(1, 3);
+        x.unit(2, 2);
+        x.kind(ADD, 0, 5, 1);
+        x.kind(SUBTRACT, 1, latency, 1);
+        x.kind(MULTIPLY, 2, 6, 1);
+        x.kind(LEAST, 2, 1, 1);
+        x.reckon(MULTIPLY, TURN, 0, TURN, 0);
+        for (int op = 1; op < 7; op++) {
+            x.reckon(op < 4 ? ADD : SUBTRACT, op - 1, 0, TURN, 0);
+        }
+        x.reckon(LEAST, 6, 0, 0, 3);
+        return x;
     }
 
     /** Three ADDS one behind another, all in one cycle's time of UNIT 0. */
@@ -1074,7 +1115,19 @@ public class PromiseTests {
         due(-1, () -> scale().pays(12));
         due(-1, () -> adds(1).pays(1));
         due(-1, () -> new OverlapMill().pays(1));
-        due(2, () -> adds(2).pays(2) < 0 ? 2 : 0);
+        // LATENCIES 13; each OP stands in SLOT 0, so SPAN is 4 times 12, and 3: 40 TURNS are enough.
+        OverlapMill x = new OverlapMill();
+        x.unit(0, 3);
+        x.kind(ADD, 0, 2, 1);
+        x.kind(SUBTRACT, 0, 3, 1);
+        x.load(0, 0);
+        x.reckon(ADD, 0, 0, TURN, 0);
+        x.reckon(SUBTRACT, 1, 0, TURN, 0);
+        x.reckon(SUBTRACT, 2, 0, TURN, 0);
+        x.reckon(MULTIPLY, 3, 0, TURN, 0);
+        due(40, () -> x.pays(12));
+        x.kind(MULTIPLY, 1, 2, 1);
+        due(-1, () -> x.pays(12));
         fails(ARGUMENT, () -> scale().pays(0));
         fails(STATE, () -> scale().pays(1));
         fails(STATE, () -> unsound().pays(1));
