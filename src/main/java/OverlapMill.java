@@ -1,3 +1,4 @@
+import java.util.Arrays;
 import java.util.NoSuchElementException;
 
 /** A pipeliner of loops; ../shared/DOC.md says what each call answers. */
@@ -590,17 +591,16 @@ public final class OverlapMill {
         Chart chart = charts[d];
         if (!chart.tried) {
             chart.tried = true;
-            chart.fitting = d >= web.rounds() && isPlaceable(d);
+            chart.fitting = false;
+            if (d >= web.rounds()) {
+                reach.span(body, web, d);
+                chart.fitting = seeker.findFirst(body, reach.way, d);
+            }
             if (chart.fitting) {
                 chart.draw(body, web, seeker.slots, d);
             }
         }
         return chart;
-    }
-
-    private boolean isPlaceable(int d) {
-        reach.span(body, web, d);
-        return seeker.findFirst(body, reach.way, d);
     }
 
     private Chart fittingChart(int d) {
@@ -994,9 +994,7 @@ public final class OverlapMill {
             }
             step = d;
             size = body.size;
-            for (int i = 0; i < way.length; i++) {
-                way[i] = WITHOUT_WAY;
-            }
+            Arrays.fill(way, WITHOUT_WAY);
             for (int i = 0; i < web.size; i++) {
                 int at = web.from[i] * MOST_OPS + web.to[i];
                 way[at] = Math.max(way[at], web.delay[i] - d * web.distance[i]);
@@ -1055,7 +1053,8 @@ public final class OverlapMill {
 
     /**
      * SLOTS of the FIRST PLAN. SLOTS of two OPS bear on one another only if they share a UNIT or
-     * stand on one ring of NEEDS, so groups of such OPS are settled apart.
+     * stand on one ring of NEEDS, so groups of such OPS are settled apart. A group can be turned
+     * round as a whole, so its first OP stands in SLOT 0.
      */
     private static final class Seeker {
         private int size;
@@ -1068,6 +1067,7 @@ public final class OverlapMill {
         private final int[] witness = new int[MOST_OPS];
         private final int[] units = new int[MOST_OPS];
         private final int[] counts = new int[UNITS];
+        private final int[] sharers = new int[UNITS];
         private final int[] asks = new int[MOST_OPS * 4];
         private final int[] planes = new int[UNITS * 4];
         private final int[] kept = new int[MOST_OPS * 4];
@@ -1078,20 +1078,17 @@ public final class OverlapMill {
         private final int[] weights = new int[MOST_OPS];
 
         private boolean findFirst(Body body, int[] ways, int d) {
-            if (!take(body, ways, d)) {
-                return false;
-            }
-            if (!holdsByUnits()) {
+            if (!take(body, ways, d) || !holdsByUnits()) {
                 return false;
             }
             tieAll();
             pairTwins();
             for (int op = 0; op < size; op++) {
-                if ((placed & (1 << op)) == 0) {
-                    members = groupOf(op);
-                    if (!settleGroup(op)) {
-                        return false;
-                    }
+                members = groupOf(op);
+                if ((members & placed) != 0) {
+                    settleLeast(op);
+                } else if (!place(op, 0) || !settle(0)) {
+                    return false;
                 }
             }
             return true;
@@ -1107,7 +1104,7 @@ public final class OverlapMill {
             int seen = 0;
             for (int op = 0; op < size; op++) {
                 if ((seen & (1 << op)) == 0) {
-                    members = sharersOf(units[op]);
+                    members = sharers[units[op]];
                     seen |= members;
                     boolean held = place(op, 0) && settle(0);
                     lift(op);
@@ -1131,6 +1128,7 @@ public final class OverlapMill {
                 if (body.usesOf(unit) > d * counts[unit]) {
                     return false;
                 }
+                sharers[unit] = 0;
                 planes[unit * 4] = full;
                 planes[unit * 4 + 1] = 0;
                 planes[unit * 4 + 2] = 0;
@@ -1138,6 +1136,7 @@ public final class OverlapMill {
             }
             for (int op = 0; op < size; op++) {
                 units[op] = body.unitAt(op);
+                sharers[units[op]] |= 1 << op;
                 if (!takeBusy(op, body.busyAt(op))) {
                     return false;
                 }
@@ -1218,40 +1217,16 @@ public final class OverlapMill {
 
         private int groupOf(int op) {
             int group = 1 << op;
-            for (int pass = 0; pass < MOST_OPS; pass++) {
+            int before = 0;
+            for (int pass = 0; pass < MOST_OPS && group != before; pass++) {
+                before = group;
                 for (int one = 0; one < size; one++) {
                     if ((group & (1 << one)) != 0) {
-                        group |= tied[one] | sharersOf(units[one]);
+                        group |= tied[one] | sharers[units[one]];
                     }
                 }
             }
             return group;
-        }
-
-        private int sharersOf(int unit) {
-            int bits = 0;
-            for (int op = 0; op < size; op++) {
-                if (units[op] == unit) {
-                    bits |= 1 << op;
-                }
-            }
-            return bits;
-        }
-
-        /** A group can be turned round the ring as a whole, so its first OP stands in SLOT 0. */
-        private boolean settleGroup(int lead) {
-            if ((openTo(lead) & 1) == 0 || !place(lead, 0)) {
-                return false;
-            }
-            if (!settle(0)) {
-                return false;
-            }
-            for (int op = lead + 1; op < size; op++) {
-                if ((members & (1 << op)) != 0) {
-                    settleLeast(op);
-                }
-            }
-            return true;
         }
 
         /** The witness always stands for all OPS that are placed, so its SLOT needs no search. */
@@ -1271,15 +1246,27 @@ public final class OverlapMill {
 
         /** Whether the rest of the group finds SLOTS; they are told in witness, and none stays placed. */
         private boolean settle(int depth) {
-            int op = narrowest();
+            int op = NONE;
+            int open = full;
+            for (int other = 0; other < size && open != 0; other++) {
+                if ((members & ~placed & (1 << other)) != 0) {
+                    int seen = openTo(other);
+                    if (op == NONE || seen == 0 || isHarder(other, seen, op, open)) {
+                        op = other;
+                        open = seen;
+                    }
+                }
+            }
             if (op == NONE) {
-                System.arraycopy(slots, 0, witness, 0, MOST_OPS);
+                keepWitness();
                 return true;
+            }
+            if (open == 0) {
+                weights[op]++;
             }
             if (depth > MOST_OPS) {
                 return false;
             }
-            int open = openTo(op);
             boolean found = false;
             for (int slot = 0; slot < step && !found; slot++) {
                 if ((open & (1 << slot)) != 0) {
@@ -1290,23 +1277,18 @@ public final class OverlapMill {
             return found;
         }
 
-        private int narrowest() {
-            int best = NONE;
-            int fewest = 0;
+        /** OPS that found no SLOT before are taken as harder, so that what fails does so soon. */
+        private boolean isHarder(int one, int openToOne, int other, int openToOther) {
+            return Integer.bitCount(openToOne) * weights[other]
+                    < Integer.bitCount(openToOther) * weights[one];
+        }
+
+        private void keepWitness() {
             for (int op = 0; op < size; op++) {
-                if ((members & ~placed & (1 << op)) != 0) {
-                    int open = Integer.bitCount(openTo(op));
-                    if (open == 0) {
-                        weights[op]++;
-                        return op;
-                    }
-                    if (best == NONE || open * weights[best] < fewest * weights[op]) {
-                        fewest = open;
-                        best = op;
-                    }
+                if ((members & (1 << op)) != 0) {
+                    witness[op] = slots[op];
                 }
             }
-            return best;
         }
 
         private int openTo(int op) {
@@ -1364,15 +1346,25 @@ public final class OverlapMill {
 
         /** Whether no ring through op asks for more whole turns of the ring than it gives. */
         private boolean ringsHold(int op, int mates) {
-            for (int i = 0; i < size; i++) {
-                turnsOff[i] = i == op ? 0 : WITHOUT_WAY;
-            }
+            Arrays.fill(turnsOff, WITHOUT_WAY);
+            turnsOff[op] = 0;
             boolean changed = true;
             for (int pass = 0; pass <= MOST_OPS && changed; pass++) {
                 changed = false;
                 for (int from = 0; from < size; from++) {
-                    if ((mates & (1 << from)) != 0 && turnsOff[from] != WITHOUT_WAY) {
-                        changed |= carryOn(from, mates);
+                    if ((mates & (1 << from)) == 0 || turnsOff[from] == WITHOUT_WAY) {
+                        continue;
+                    }
+                    for (int to = 0; to < size; to++) {
+                        if (to == from || (mates & (1 << to)) == 0) {
+                            continue;
+                        }
+                        int wait = slots[from] + way[from * MOST_OPS + to] - slots[to];
+                        int turns = turnsOff[from] - Math.floorDiv(-wait, step);
+                        if (turns > turnsOff[to]) {
+                            turnsOff[to] = turns;
+                            changed = true;
+                        }
                     }
                 }
                 if (turnsOff[op] > 0) {
@@ -1380,21 +1372,6 @@ public final class OverlapMill {
                 }
             }
             return true;
-        }
-
-        private boolean carryOn(int from, int mates) {
-            boolean changed = false;
-            for (int to = 0; to < size; to++) {
-                if (to != from && (mates & (1 << to)) != 0) {
-                    int wait = slots[from] + way[from * MOST_OPS + to] - slots[to];
-                    int turns = turnsOff[from] + roundUp(wait, step);
-                    if (turns > turnsOff[to]) {
-                        turnsOff[to] = turns;
-                        changed = true;
-                    }
-                }
-            }
-            return changed;
         }
     }
 
@@ -1451,9 +1428,7 @@ public final class OverlapMill {
         }
 
         private void drawLives(Body body) {
-            for (int op = 0; op < size; op++) {
-                lives[op] = 0;
-            }
+            Arrays.fill(lives, 0);
             for (int user = 0; user < size; user++) {
                 for (int which = 0; which < body.sourcesOf(user); which++) {
                     int source = body.sourceAt(user, which);
@@ -1703,9 +1678,7 @@ public final class OverlapMill {
 
         /** Counts what OPS with a TIME ask of a UNIT, SLOT by SLOT. */
         private void tally(Body body, int unit) {
-            for (int slot = 0; slot < step; slot++) {
-                asked[slot] = 0;
-            }
+            Arrays.fill(asked, 0);
             for (int op = 0; op < body.size; op++) {
                 if ((timed & (1 << op)) != 0 && body.unitAt(op) == unit) {
                     ask(body.busyAt(op), times[op], 1);

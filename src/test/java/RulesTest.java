@@ -112,7 +112,8 @@ public class RulesTest {
         }
         Matcher imports = Pattern.compile("(?m)^import (.*);").matcher(source);
         while (imports.find()) {
-            hold(imports.group(1).equals("java.util.NoSuchElementException"), "import " + imports.group(1));
+            hold(imports.group(1).matches("java\\.util\\.(Arrays|NoSuchElementException)"),
+                    "import " + imports.group(1));
         }
         String[] lines = source.split("\n");
         int begin = 0;
