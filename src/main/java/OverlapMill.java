@@ -899,15 +899,15 @@ public final class OverlapMill {
 
         private int compareAt(int at, int source, int target, int apart, int wait) {
             if (from[at] != source) {
-                return Integer.compare(from[at], source);
+                return from[at] - source;
             }
             if (to[at] != target) {
-                return Integer.compare(to[at], target);
+                return to[at] - target;
             }
             if (distance[at] != apart) {
-                return Integer.compare(distance[at], apart);
+                return distance[at] - apart;
             }
-            return Integer.compare(delay[at], wait);
+            return delay[at] - wait;
         }
 
         private void set(int at, int source, int target, int apart, int wait) {
@@ -1360,7 +1360,8 @@ public final class OverlapMill {
                             continue;
                         }
                         int wait = slots[from] + way[from * MOST_OPS + to] - slots[to];
-                        int turns = turnsOff[from] - Math.floorDiv(-wait, step);
+                        int whole = wait > 0 ? (wait + step - 1) / step : wait / step;
+                        int turns = turnsOff[from] + whole;
                         if (turns > turnsOff[to]) {
                             turnsOff[to] = turns;
                             changed = true;
