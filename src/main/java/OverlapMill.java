@@ -6,6 +6,7 @@ public final class OverlapMill {
     public static final int NONE = -1;
 
     private static final int MOST_OPS = 8;
+    private static final int PAIRS = MOST_OPS * MOST_OPS;
     private static final int KINDS = 6;
     private static final int LOADING = 4;
     private static final int STORING = 5;
@@ -594,7 +595,7 @@ public final class OverlapMill {
             chart.fitting = false;
             if (d >= web.rounds()) {
                 reach.span(body, web, d);
-                chart.fitting = seeker.findFirst(body, reach.way, d);
+                chart.fitting = seeker.holdsByUnits(body, d) && seeker.findFirst(reach.way);
             }
             if (chart.fitting) {
                 chart.draw(body, web, seeker.slots, d);
@@ -986,7 +987,7 @@ public final class OverlapMill {
     private static final class Reach {
         private int size;
         private int step;
-        private final int[] way = new int[MOST_OPS * MOST_OPS];
+        private final int[] way = new int[PAIRS];
 
         private void span(Body body, Web web, int d) {
             if (step == d) {
@@ -1062,7 +1063,6 @@ public final class OverlapMill {
         private int full;
         private int members;
         private int placed;
-        private int[] way = new int[0];
         private final int[] slots = new int[MOST_OPS];
         private final int[] witness = new int[MOST_OPS];
         private final int[] units = new int[MOST_OPS];
@@ -1071,35 +1071,21 @@ public final class OverlapMill {
         private final int[] asks = new int[MOST_OPS * 4];
         private final int[] planes = new int[UNITS * 4];
         private final int[] kept = new int[MOST_OPS * 4];
-        private final int[] gaps = new int[MOST_OPS * MOST_OPS];
+        private final int[] ties = new int[PAIRS];
+        private final int[] keptTies = new int[MOST_OPS * PAIRS];
+        private final int[] into = new int[MOST_OPS];
+        private final int[] outOf = new int[MOST_OPS];
         private final int[] tied = new int[MOST_OPS];
         private final int[] twins = new int[MOST_OPS];
-        private final int[] turnsOff = new int[MOST_OPS];
         private final int[] weights = new int[MOST_OPS];
 
-        private boolean findFirst(Body body, int[] ways, int d) {
-            if (!take(body, ways, d) || !holdsByUnits()) {
+        /** Looks at each UNIT alone, NEEDS aside: what fails there is found soon. */
+        private boolean holdsByUnits(Body body, int d) {
+            if (!take(body, d)) {
                 return false;
             }
-            tieAll();
-            pairTwins();
-            for (int op = 0; op < size; op++) {
-                members = groupOf(op);
-                if ((members & placed) != 0) {
-                    settleLeast(op);
-                } else if (!place(op, 0) || !settle(0)) {
-                    return false;
-                }
-            }
-            return true;
-        }
-
-        /** Looks at each UNIT alone, NEEDS aside: what fails there is found soon. */
-        private boolean holdsByUnits() {
-            for (int op = 0; op < size; op++) {
-                tied[op] = 0;
-                weights[op] = 1;
-            }
+            Arrays.fill(tied, 0);
+            Arrays.fill(weights, 1);
             pairTwins();
             int seen = 0;
             for (int op = 0; op < size; op++) {
@@ -1116,13 +1102,38 @@ public final class OverlapMill {
             return true;
         }
 
+        /** Behind holdsByUnits: OP by OP the least SLOT with which the rest of its group finds some. */
+        private boolean findFirst(int[] ways) {
+            tieAll(ways);
+            pairTwins();
+            for (int op = 0; op < size; op++) {
+                members = groupOf(op);
+                boolean leads = (members & placed) == 0;
+                int open = leads ? 1 : openTo(op);
+                boolean held = false;
+                for (int slot = 0; slot < step && !held; slot++) {
+                    if ((open & (1 << slot)) != 0) {
+                        // The witness stands with all that is placed, so its SLOT needs no search.
+                        boolean known = !leads && slot == witness[op];
+                        held = place(op, slot) && (known || settle(0));
+                        if (!held) {
+                            lift(op);
+                        }
+                    }
+                }
+                if (!held) {
+                    return false;
+                }
+            }
+            return true;
+        }
+
         /** False, if a UNIT is asked too much wherever the OPS are put. */
-        private boolean take(Body body, int[] ways, int d) {
+        private boolean take(Body body, int d) {
             size = body.size;
             step = d;
             full = (1 << d) - 1;
             placed = 0;
-            way = ways;
             for (int unit = 0; unit < UNITS; unit++) {
                 counts[unit] = body.counts[unit];
                 if (body.usesOf(unit) > d * counts[unit]) {
@@ -1160,13 +1171,15 @@ public final class OverlapMill {
             return true;
         }
 
-        private void tieAll() {
+        /** OPS on one ring of NEEDS are tied: each of them can be no more than so far behind the other. */
+        private void tieAll(int[] ways) {
+            System.arraycopy(ways, 0, ties, 0, PAIRS);
             for (int op = 0; op < size; op++) {
                 tied[op] = 0;
                 for (int other = 0; other < size; other++) {
-                    if (other != op && areTied(op, other)) {
+                    boolean there = ties[op * MOST_OPS + other] != WITHOUT_WAY;
+                    if (other != op && there && ties[other * MOST_OPS + op] != WITHOUT_WAY) {
                         tied[op] |= 1 << other;
-                        gaps[other * MOST_OPS + op] = gapsOf(other, op);
                     }
                 }
             }
@@ -1181,25 +1194,6 @@ public final class OverlapMill {
                     }
                 }
             }
-        }
-
-        private boolean areTied(int one, int other) {
-            return way[one * MOST_OPS + other] != WITHOUT_WAY
-                    && way[other * MOST_OPS + one] != WITHOUT_WAY;
-        }
-
-        /** Bits of how far, round the ring, the SLOT of op may stand behind that of other. */
-        private int gapsOf(int other, int op) {
-            int lowest = way[other * MOST_OPS + op];
-            int highest = -way[op * MOST_OPS + other];
-            if (highest - lowest + 1 >= step) {
-                return full;
-            }
-            int bits = 0;
-            for (int gap = lowest; gap <= highest; gap++) {
-                bits |= 1 << Math.floorMod(gap, step);
-            }
-            return bits;
         }
 
         /** Twins may change places, so in a FIRST PLAN their SLOTS never come down. */
@@ -1227,21 +1221,6 @@ public final class OverlapMill {
                 }
             }
             return group;
-        }
-
-        /** The witness always stands for all OPS that are placed, so its SLOT needs no search. */
-        private void settleLeast(int op) {
-            int open = openTo(op);
-            for (int slot = 0; slot < step; slot++) {
-                if ((open & (1 << slot)) == 0) {
-                    continue;
-                }
-                boolean held = place(op, slot);
-                if (held && (slot == witness[op] || settle(0))) {
-                    return;
-                }
-                lift(op);
-            }
         }
 
         /** Whether the rest of the group finds SLOTS; they are told in witness, and none stays placed. */
@@ -1306,7 +1285,7 @@ public final class OverlapMill {
                     continue;
                 }
                 if ((tied[op] & (1 << other)) != 0) {
-                    open &= turned(gaps[other * MOST_OPS + op], slots[other]);
+                    open &= windowOf(op, other);
                 } else if (other < op) {
                     open &= full << slots[other];
                 } else {
@@ -1314,6 +1293,18 @@ public final class OverlapMill {
                 }
             }
             return open;
+        }
+
+        /** Bits of the SLOTS that op may have by its ties with a placed one. */
+        private int windowOf(int op, int other) {
+            int lowest = ties[other * MOST_OPS + op];
+            int width = 1 - ties[op * MOST_OPS + other] - lowest;
+            if (width >= step) {
+                return full;
+            }
+            int start = Math.floorMod(slots[other] + lowest, step);
+            int bits = width <= 0 ? 0 : (1 << width) - 1;
+            return ((bits << start) | (bits >> (step - start))) & full;
         }
 
         /** The bits of a ring, each carried on by so many SLOTS (0 to step). */
@@ -1335,44 +1326,76 @@ public final class OverlapMill {
                     planes[plane + 1] |= bit;
                 }
             }
-            int mates = tied[op] & placed;
-            return Integer.bitCount(mates) < 2 || ringsHold(op, mates | (1 << op));
+            if (!hasManyTies(op)) {
+                return true;
+            }
+            System.arraycopy(ties, 0, keptTies, op * PAIRS, PAIRS);
+            if (!align(op)) {
+                return false;
+            }
+            tighten(op);
+            return true;
         }
 
         private void lift(int op) {
             System.arraycopy(kept, op * 4, planes, units[op] * 4, 4);
             placed &= ~(1 << op);
+            if (hasManyTies(op)) {
+                System.arraycopy(keptTies, op * PAIRS, ties, 0, PAIRS);
+            }
         }
 
-        /** Whether no ring through op asks for more whole turns of the ring than it gives. */
-        private boolean ringsHold(int op, int mates) {
-            Arrays.fill(turnsOff, WITHOUT_WAY);
-            turnsOff[op] = 0;
-            boolean changed = true;
-            for (int pass = 0; pass <= MOST_OPS && changed; pass++) {
-                changed = false;
-                for (int from = 0; from < size; from++) {
-                    if ((mates & (1 << from)) == 0 || turnsOff[from] == WITHOUT_WAY) {
-                        continue;
-                    }
-                    for (int to = 0; to < size; to++) {
-                        if (to == from || (mates & (1 << to)) == 0) {
-                            continue;
-                        }
-                        int wait = slots[from] + way[from * MOST_OPS + to] - slots[to];
-                        int whole = wait > 0 ? (wait + step - 1) / step : wait / step;
-                        int turns = turnsOff[from] + whole;
-                        if (turns > turnsOff[to]) {
-                            turnsOff[to] = turns;
-                            changed = true;
-                        }
+        /** Of two OPS alone the ties tell all; only with a third one there is something to draw. */
+        private boolean hasManyTies(int op) {
+            return Integer.bitCount(tied[op]) >= 2;
+        }
+
+        /**
+         * How far op is behind its mates and they behind it, now that it has a SLOT: the ways between
+         * placed OPS are rounded up to their SLOTS. False, if a ring asks too much by that.
+         */
+        private boolean align(int op) {
+            int held = tied[op] & placed;
+            for (int i = 0; i < size; i++) {
+                into[i] = ties[i * MOST_OPS + op];
+                outOf[i] = ties[op * MOST_OPS + i];
+                if ((held & (1 << i)) != 0) {
+                    into[i] += Math.floorMod(slots[op] - slots[i] - into[i], step);
+                    outOf[i] += Math.floorMod(slots[i] - slots[op] - outOf[i], step);
+                }
+            }
+            for (int i = 0; i < size; i++) {
+                if ((tied[op] & (1 << i)) == 0) {
+                    continue;
+                }
+                for (int by = 0; by < size; by++) {
+                    if ((held & (1 << by)) != 0) {
+                        into[i] = Math.max(into[i], ties[i * MOST_OPS + by] + into[by]);
+                        outOf[i] = Math.max(outOf[i], outOf[by] + ties[by * MOST_OPS + i]);
                     }
                 }
-                if (turnsOff[op] > 0) {
+                if (into[i] + outOf[i] > 0) {
                     return false;
                 }
             }
             return true;
+        }
+
+        /** Draws what follows for all pairs of mates from what align told of op. */
+        private void tighten(int op) {
+            for (int i = 0; i < size; i++) {
+                if ((tied[op] & (1 << i)) == 0) {
+                    continue;
+                }
+                ties[i * MOST_OPS + op] = into[i];
+                ties[op * MOST_OPS + i] = outOf[i];
+                for (int j = 0; j < size; j++) {
+                    if (j != i && (tied[op] & (1 << j)) != 0) {
+                        int at = i * MOST_OPS + j;
+                        ties[at] = Math.max(ties[at], into[i] + outOf[j]);
+                    }
+                }
+            }
         }
     }
 
