@@ -1901,7 +1901,6 @@ public final class OverlapMill {
             int all = Math.min(MOST_CYCLES, chart.cyclesOf(n));
             int wait = 0;
             for (int cycle = 0; cycle < all; cycle++) {
-                waits[cycle] = wait;
                 for (int op = 0; op < chart.size; op++) {
                     int turn = chart.turnBegun(op, cycle, n);
                     if (turn != NONE) {

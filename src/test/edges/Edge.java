@@ -47,9 +47,10 @@ class Edge {
         boolean answer();
     }
 
-    /** Section 0 is "Terms", the others are the promises by their numbers. */
+    /** Section 0 is "Terms", 51 the end of "What it is", the others are the promises by their numbers. */
     static void read(Path document) throws Exception {
         String whole = Files.readString(document);
+        put(51, whole.substring(whole.indexOf("An object is used"), whole.indexOf("\n## The public face")));
         put(0, whole.substring(whole.indexOf("\n## Terms"), whole.indexOf("\n## Promise 1:")));
         String[] parts = whole.substring(0, whole.indexOf("\n## Not promised")).split("\n## Promise ");
         for (int i = 1; i < parts.length; i++) {
@@ -97,8 +98,8 @@ class Edge {
                 break;
             }
         }
-        System.out.println((place == 0 ? "Terms" : "promise " + place) + ", line " + line + ", \""
-                + quote + "\": " + what);
+        String where = place == 0 ? "Terms" : place == 51 ? "What it is" : "promise " + place;
+        System.out.println(where + ", line " + line + ", \"" + quote + "\": " + what);
     }
 
     static String answerOf(Call call) {
@@ -182,7 +183,7 @@ class Edge {
                 lookFor(Pattern.compile("\\([^()]*\\)"), text, 0);
                 continue;
             }
-            int body = text.indexOf("`: ") + 3;
+            int body = Math.max(0, text.indexOf("`: "));
             lookFor(Pattern.compile("[^.;]*[^.; ][^.;]*"), text, body);
             Matcher thrown = Pattern.compile("\\w+Exception").matcher(text);
             while (thrown.find() && thrown.start() < body) {

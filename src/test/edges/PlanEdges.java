@@ -289,6 +289,16 @@ final class PlanEdges extends Edge {
             times(x, 4, 0, 0, 8);
             times(x, 6, 0, 0, 6);
             times(x, 12, 0, 0, 12);
+            // NEEDS that lead from greater numbers to lesser ones hold as well: 6 less d from each to the next.
+            OverlapMill back = new OverlapMill();
+            back.kind(ADD, 0, 6, 1);
+            back.unit(0, 3);
+            for (int op = 0; op < 7; op++) {
+                back.reckon(ADD, op + 1, 1, TURN, 0);
+            }
+            back.reckon(ADD, TURN, 0, TURN, 0);
+            times(back, 3, 27, 24, 21, 16, 13, 10, 5, 2);
+            times(back, 6, 12, 12, 12, 7, 7, 7, 2, 2);
         });
         terms("SLOTS (TIME modulo d)", () -> {
             due(1, () -> Loops.scale().life(2, 2, 1));
@@ -420,6 +430,11 @@ final class PlanEdges extends Edge {
             OverlapMill twice = Loops.adds(2);
             twice.kind(ADD, 0, 1, 5);
             quickly(twice, 4, 2, 0, 1);
+            // What was tried at 0 and found no room leaves nothing behind: SLOTS 1 and 2 are free.
+            OverlapMill near = Loops.adds(1);
+            near.kind(SUBTRACT, 0, 1, 3);
+            near.reckon(SUBTRACT, TURN, 0, TURN, 0);
+            quickly(near, 3, 2, 0, 1);
             OverlapMill once = Loops.adds(1);
             once.unit(0, 2);
             once.kind(ADD, 0, 1, 9);

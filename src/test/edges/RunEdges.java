@@ -581,6 +581,14 @@ final class RunEdges extends Edge {
                 due(NONE, () -> x.rotary(3, 1, one[0]));
             }
             due(4, () -> x.turning(1));
+            // OP 0 has no LIFE and shuts no place.
+            OverlapMill y = Loops.adds(1);
+            y.unit(0, 2);
+            y.load(0, 0);
+            y.reckon(ADD, 1, 2, 1, 0);
+            due(NONE, () -> y.rotary(0, 1, 3));
+            due(0, () -> y.rotary(1, 1, 3));
+            due(3, () -> y.turning(1));
         });
     }
 
@@ -676,7 +684,13 @@ final class RunEdges extends Edge {
             OverlapMill second = Loops.single(LOAD);
             second.reckon(ADD, NUMBER, 0, 0, 0);
             due(6, () -> second.late(1, 1, 1, 6));
-            // Ten cycles between LOAD and MULTIPLY take up what is late, but for more than that.
+            // OP 0 waits for a LOAD with a greater number.
+            OverlapMill back = new OverlapMill();
+            back.reckon(ADD, 1, 1, TURN, 0);
+            back.load(0, 0);
+            due(0, () -> back.late(1, 1, 9, 5));
+            due(5, () -> back.late(1, 2, 9, 5));
+            // Ten cycles between LOAD and MULTIPLY take up what is late.
             due(0, () -> x.late(12, 40, 1, 9));
         });
         terms("(SOURCES that are OPS, of TURNS that there are)", () -> {
@@ -723,6 +737,14 @@ final class RunEdges extends Edge {
             due(1, () -> middle.plan(3, 6));
             due(0, () -> Loops.adds(2).plan(12, 5));
             due(0, () -> Loops.adds(2).plan(12, 6));
+            // ALIVE 0, 2 and 1: the LIFE of OP 1 is in SLOT 1, that of OP 2 in SLOTS 1 and 2.
+            OverlapMill peak = Loops.adds(1);
+            peak.kind(SUBTRACT, 0, 3, 1);
+            peak.kind(LEAST, 0, 2, 1);
+            peak.reckon(SUBTRACT, 1, 1, TURN, 0);
+            peak.reckon(LEAST, 2, 1, TURN, 0);
+            due(2, () -> peak.plan(3, 5));
+            due(1, () -> peak.plan(3, 6));
             OverlapMill first = Loops.circle(2, 2);
             due(2, () -> first.plan(2, 5));
             due(0, () -> first.plan(2, 6));

@@ -528,6 +528,15 @@ final class ThrowEdges extends Edge {
             fails(INDEX, () -> x.first(1, 10000));
             fails(INDEX, () -> x.unit(3, 0));
         });
+        sentence(51, "An object is used for at most 512 calls after it has been made; what later calls answer is free", () -> {
+            OverlapMill x = Loops.scale();
+            // Three calls told it; the 508 behind them go by all d, and the last one is the 512th.
+            for (int i = 0; i < 508; i++) {
+                int d = 2 + i % 11;
+                due(0, () -> x.time(0, d));
+            }
+            due(354, () -> x.run(1, 39, 2, 40));
+        });
         terms("a call that throws changes nothing", ThrowEdges::nothingIsChanged);
         terms("Whatever is asked is by OPS, KINDS, UNITS as they are now", ThrowEdges::asTheyAreNow);
     }
@@ -551,10 +560,9 @@ final class ThrowEdges extends Edge {
     /** All is asked ahead of each change, so that whatever an object keeps would be old behind it. */
     static void asTheyAreNow() {
         OverlapMill x = new OverlapMill();
-        OverlapMill y = new OverlapMill();
         for (int i = 0; i < Picture.CHANGES; i++) {
             Picture.change(x, i);
-            y = new OverlapMill();
+            OverlapMill y = new OverlapMill();
             for (int k = 0; k <= i; k++) {
                 Picture.change(y, k);
             }
@@ -562,6 +570,27 @@ final class ThrowEdges extends Edge {
             // Asked once more, it is the same.
             compare(Picture.of(y), Picture.of(y));
         }
+        // The same d is asked for ahead of a change and behind it, with nothing between.
+        OverlapMill far = Loops.growth();
+        due(3, () -> far.far(0, 1, 6));
+        far.kind(MULTIPLY, 1, 5, 3);
+        due(5, () -> far.far(0, 1, 6));
+        far.kind(MULTIPLY, 1, 1, 3);
+        due(1, () -> far.height(0, 6));
+        due(1, () -> far.bare(1, 6, false));
+        due(1, () -> far.quick(1, 6));
+        far.kind(MULTIPLY, 1, 4, 3);
+        due(4, () -> far.quick(1, 6));
+        due(4, () -> far.time(1, 6));
+        far.kind(MULTIPLY, 1, 2, 3);
+        due(2, () -> far.time(1, 6));
+        // OP 0 was held by OP 1 and is no more.
+        OverlapMill back = new OverlapMill();
+        back.reckon(ADD, 1, 1, TURN, 0);
+        back.load(0, 0);
+        due(1, () -> back.time(0, 1));
+        back.kind(LOAD, 2, 1, 1);
+        due(0, () -> back.time(0, 1));
         // QUICK by another d, and of a loop that was another one.
         OverlapMill z = Loops.adds(1);
         due(1, () -> z.quickest());

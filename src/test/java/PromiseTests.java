@@ -926,7 +926,7 @@ public class PromiseTests {
         due(2, () -> chain().rate(false));
         fails(STATE, () -> unsound().rate(false));
         fails(STATE, () -> unsound().rate(true));
-        // The ring's DELAYS come to 0 by the LOAD that is ahead of a STORE.
+        // Both NEEDS lead from the LOAD to the STORE, so there is no ring.
         OverlapMill zero = new OverlapMill();
         zero.kind(STORE, 2, 6, 1);
         zero.kind(LOAD, 2, 1, 1);

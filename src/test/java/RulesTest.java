@@ -1,3 +1,5 @@
+import com.sun.management.ThreadMXBean;
+import java.lang.management.ManagementFactory;
 import java.lang.reflect.Field;
 import java.lang.reflect.Method;
 import java.lang.reflect.Modifier;
@@ -23,6 +25,7 @@ public class RulesTest {
         String source = Files.readString(main);
         checkFace(Files.readString(main.toAbsolutePath().resolve("../../../../../shared/DOC.md").normalize()));
         checkClasses();
+        checkRoom();
         checkText(source.replaceAll("(?s)/\\*\\*.*?\\*/", "").replaceAll("//.*", ""));
         System.out.println(wrong + " rules broken");
         System.exit(wrong == 0 ? 0 : 1);
@@ -104,6 +107,41 @@ public class RulesTest {
                 hold(method.getParameterCount() <= 7, "parameters: " + method);
             }
         }
+    }
+
+    /** An object takes little room, and no call that answers takes any more (rule 12). */
+    static void checkRoom() {
+        ThreadMXBean thread = (ThreadMXBean) ManagementFactory.getThreadMXBean();
+        useAll(new OverlapMill());
+        long before = thread.getCurrentThreadAllocatedBytes();
+        OverlapMill mill = new OverlapMill();
+        long made = thread.getCurrentThreadAllocatedBytes();
+        useAll(mill);
+        long used = thread.getCurrentThreadAllocatedBytes();
+        hold(made - before < 40000, "an object takes " + (made - before) + " bytes");
+        hold(used - made < 2000, "calls take " + (used - made) + " bytes");
+    }
+
+    static int useAll(OverlapMill x) {
+        x.kind(2, 0, 4, 5);
+        x.unit(0, 2);
+        x.load(0, 0);
+        x.reckon(2, 0, 0, 2, 2);
+        x.reckon(0, 1, 0, 2, 1);
+        x.store(2, 0, 0, 3);
+        int sum = x.first(2, 5) + x.least() + x.quickest() + x.squeeze(9) + x.rate(true) + x.critical() + x.bestFold();
+        sum += x.fold(3) + x.faster(2) + x.more(1) + x.without(1) + x.need(2, 3) + x.op(1, 1) + x.uses(0);
+        for (int d = x.count(2); d <= 12; d++) {
+            sum += x.far(0, 2, d) + x.height(0, d) + x.bare(1, d, true) + x.moves(d) + x.quick(2, d);
+        }
+        for (int d = x.least(); d <= 12; d++) {
+            sum += x.time(2, d) + x.ring(0, 0, d) + x.plan(d, 6) + x.life(1, d, 5) + x.alive(1, d);
+            sum += x.flat(2, 30, d, 40) + x.cycles(d, 40, 3) + x.run(0, 5, d, 40) + x.comes(2, d, 40);
+            sum += x.plain(0, 5, 40) + x.code(d, false) + x.peel(d, 40, true) + x.turning(d) + x.rotary(1, d, 9);
+            sum += x.name(1, 0, 20, d, 40) + x.idle(0, d) + x.who(0, 1, d) + x.holes(d, 40) + x.late(d, 40, 2, 9);
+            sum += x.pays(d) + (x.gate(1, 3, d, 40) ? 1 : 0) + (x.fits(d) ? 1 : 0);
+        }
+        return sum + x.drop() + x.count(5) + (x.isSound() ? 1 : 0);
     }
 
     static void checkText(String source) {
