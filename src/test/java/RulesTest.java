@@ -1,4 +1,6 @@
 import com.sun.management.ThreadMXBean;
+import java.io.PrintWriter;
+import java.io.StringWriter;
 import java.lang.management.ManagementFactory;
 import java.lang.reflect.Field;
 import java.lang.reflect.Method;
@@ -8,10 +10,13 @@ import java.nio.file.Path;
 import java.util.ArrayList;
 import java.util.Arrays;
 import java.util.List;
+import java.util.Map;
 import java.util.Set;
+import java.util.TreeMap;
 import java.util.TreeSet;
 import java.util.regex.Matcher;
 import java.util.regex.Pattern;
+import java.util.spi.ToolProvider;
 
 /** What of ../shared/LANGUAGE.md, and of the document's face, can be seen without reading the code. */
 public class RulesTest {
@@ -26,6 +31,7 @@ public class RulesTest {
         checkFace(Files.readString(main.toAbsolutePath().resolve("../../../../../shared/DOC.md").normalize()));
         checkClasses();
         checkRoom();
+        checkDepth();
         checkText(source.replaceAll("(?s)/\\*\\*.*?\\*/", "").replaceAll("//.*", ""));
         System.out.println(wrong + " rules broken");
         System.exit(wrong == 0 ? 0 : 1);
@@ -142,6 +148,51 @@ public class RulesTest {
             sum += x.pays(d) + (x.gate(1, 3, d, 40) ? 1 : 0) + (x.fits(d) ? 1 : 0);
         }
         return sum + x.drop() + x.count(5) + (x.isSound() ? 1 : 0);
+    }
+
+    /** Calls go at most eight deep, the library's with them; a method that calls itself counts once. */
+    static void checkDepth() {
+        Map<String, Set<String>> calls = callsOf(OverlapMill.class);
+        for (Class<?> one : OverlapMill.class.getDeclaredClasses()) {
+            calls.putAll(callsOf(one));
+        }
+        hold(calls.size() > 100, "calls are read from " + calls.size() + " methods");
+        for (String method : calls.keySet()) {
+            int depth = depthOf(calls, method, 0);
+            hold(depth <= 8, method + " goes " + depth + " deep");
+        }
+    }
+
+    static int depthOf(Map<String, Set<String>> calls, String method, int open) {
+        int most = 0;
+        if (open <= 40) {
+            for (String called : calls.getOrDefault(method, Set.of())) {
+                most = called.equals(method) ? most : Math.max(most, depthOf(calls, called, open + 1));
+            }
+        }
+        return most + 1;
+    }
+
+    static Map<String, Set<String>> callsOf(Class<?> one) {
+        StringWriter told = new StringWriter();
+        PrintWriter out = new PrintWriter(told);
+        ToolProvider.findFirst("javap").orElseThrow().run(out, out,
+                "-c", "-p", "-cp", System.getProperty("java.class.path"), one.getName());
+        Map<String, Set<String>> calls = new TreeMap<>();
+        String method = "";
+        for (String line : told.toString().split("\\R")) {
+            Matcher head = Pattern.compile("  \\S.*?([\\w$]+)\\(.*;").matcher(line);
+            Matcher call = Pattern.compile("// Method (?:([\\w$/]+)\\.)?\"?([\\w$<>]+)\"?:").matcher(line);
+            if (head.matches()) {
+                String name = head.group(1).equals(one.getName()) ? "<init>" : head.group(1);
+                method = one.getName() + "." + name;
+                calls.putIfAbsent(method, new TreeSet<>());
+            } else if (call.find() && !method.isEmpty()) {
+                String owner = call.group(1) == null ? one.getName() : call.group(1);
+                calls.get(method).add(owner + "." + call.group(2));
+            }
+        }
+        return calls;
     }
 
     static void checkText(String source) {
